@@ -103,10 +103,13 @@ public final class ModelTest {
     }
 
     private void callOfANode(int n) {
-        if (random.nextInt(6) == 0) {
+        int kind = random.nextInt(9);
+        if (kind == 0) {
             due.is(name + "interrupt(" + n + ")", real.interrupt(n), model.interrupt(n));
+        } else if (kind < 5) {
+            due.is(name + "safe(" + n + ")", real.safe(n), model.safe(n));
+        } else {
+            due.is(name + "finished(" + n + ")", real.finished(n), model.finished(n));
         }
-        due.is(name + "safe(" + n + ")", real.safe(n), model.safe(n));
-        due.is(name + "finished(" + n + ")", real.finished(n), model.finished(n));
     }
 }

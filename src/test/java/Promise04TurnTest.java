@@ -60,7 +60,7 @@ public final class Promise04TurnTest {
         CarThreads x = new CarThreads();
         x.node(2, 0);
         x.node(2, 0);
-        for (int t = 0; t < 505; t++) {
+        for (int t = 0; t < 502; t++) {
             x.turn(t < 499 ? 2 : 1);
         }
         due.is("run", x.run(), 2);
