@@ -43,7 +43,7 @@ public final class CarThreads {
         if (nodeCount >= MAX_NODES) {
             return NO_ROOM;
         }
-        nodes[nodeCount] = new Node(steps, failsAt);
+        nodes[nodeCount] = new Node(nodeCount + 1, steps, failsAt);
         nodeCount++;
         return nodeCount;
     }
@@ -147,9 +147,9 @@ public final class CarThreads {
 
     public int close() {
         int ended = 0;
-        for (int i = 0; i < nodeCount; i++) {
-            if (nodes[i].alive) {
-                endNode(nodes[i]);
+        for (Node node : nodes) {
+            if (node != null && node.alive) {
+                endNode(node);
                 ended++;
             }
         }
@@ -178,9 +178,9 @@ public final class CarThreads {
     }
 
     private void endNodesCutNow() {
-        for (int i = 0; i < nodeCount; i++) {
-            if (nodes[i].cutMicro == nextMicro) {
-                endNode(nodes[i]);
+        for (Node node : nodes) {
+            if (node != null && node.cutMicro == nextMicro) {
+                endNode(node);
             }
         }
     }
@@ -188,19 +188,20 @@ public final class CarThreads {
     private boolean findReady() {
         int least = leastDoneByAlive();
         boolean found = false;
-        for (int i = 0; i < nodeCount; i++) {
-            Node node = nodes[i];
-            node.ready = node.alive && !node.waitsForAnother() && !waitsAtBarrier(node, least);
-            found = found || node.ready;
+        for (Node node : nodes) {
+            if (node != null) {
+                node.ready = node.alive && !node.waitsForAnother() && !waitsAtBarrier(node, least);
+                found = found || node.ready;
+            }
         }
         return found;
     }
 
     private int leastDoneByAlive() {
         int least = MAX_STEPS;
-        for (int i = 0; i < nodeCount; i++) {
-            if (nodes[i].alive) {
-                least = Math.min(least, nodes[i].done);
+        for (Node node : nodes) {
+            if (node != null && node.alive) {
+                least = Math.min(least, node.done);
             }
         }
         return least;
@@ -221,9 +222,9 @@ public final class CarThreads {
     }
 
     private void stepOthers() {
-        for (int i = 0; i < nodeCount; i++) {
-            if (nodes[i].ready) {
-                stepOnce(nodes[i]);
+        for (Node node : nodes) {
+            if (node != null && node.ready) {
+                stepOnce(node);
             }
         }
     }
@@ -245,10 +246,10 @@ public final class CarThreads {
 
     /** Behind all steps, not at each one, since the log goes by nodes and not by turns. */
     private void noteSteps() {
-        for (int i = 0; i < nodeCount; i++) {
-            if (nodes[i].toBeNoted) {
-                nodes[i].toBeNoted = false;
-                note((i + 1) * LOG_NODE_UNIT + nodes[i].done);
+        for (Node node : nodes) {
+            if (node != null && node.toBeNoted) {
+                node.toBeNoted = false;
+                note(node.number * LOG_NODE_UNIT + node.done);
             }
         }
     }
@@ -285,6 +286,7 @@ public final class CarThreads {
     }
 
     private static final class Node {
+        final int number;
         final int steps;
         final int failsAt;
         final Node[] awaitedBefore;
@@ -297,7 +299,8 @@ public final class CarThreads {
         int lastPartsDone;
         long cutMicro;
 
-        Node(int steps, int failsAt) {
+        Node(int number, int steps, int failsAt) {
+            this.number = number;
             this.steps = steps;
             this.failsAt = failsAt;
             this.awaitedBefore = new Node[steps + 1];

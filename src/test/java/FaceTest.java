@@ -1,17 +1,12 @@
-import java.io.IOException;
-import java.lang.reflect.Constructor;
-import java.lang.reflect.Field;
+import java.lang.reflect.Member;
 import java.lang.reflect.Method;
 import java.lang.reflect.Modifier;
-import java.nio.file.Files;
-import java.nio.file.Path;
+import java.util.ArrayList;
 import java.util.Arrays;
 import java.util.List;
 import java.util.TreeSet;
-import java.util.regex.Matcher;
-import java.util.regex.Pattern;
 
-/** The public face of the document, and what LANGUAGE.md rules out in the source. */
+/** "The public face" of the document, and LANGUAGE.md, rule 1, which lets nothing else be seen. */
 public final class FaceTest {
     private static final List<String> FACE = List.of(
         "public CarThreads()",
@@ -27,69 +22,41 @@ public final class FaceTest {
         "public int CarThreads.barrier(int)",
         "public int CarThreads.finished(int)",
         "public int CarThreads.close()");
-    private static final List<String> RULED_OUT = List.of(
-        "\\b(throw|throws|try|catch|finally|synchronized|assert|volatile|package)\\b",
-        "\\bimport (?!java\\.util\\.(ArrayList|List|Arrays|Iterator);)",
-        "->", "::", "\\b(equals|hashCode|toString|getClass|currentTimeMillis|nanoTime)\\b",
-        "\\w+Exact\\b", "\\bThread\\b", "\\b(Object|var)\\b");
 
-    public static void main(String[] args) throws IOException {
+    public static void main(String[] args) {
         Due due = new Due();
         faceIsTheDocuments(due);
+        theClassStandsAlone(due);
         noPrivateMethodBearsAPublicName(due);
-        staticsAreFinal(due);
-        sourceKeepsToTheLanguage(due);
         due.end();
     }
 
     private static void faceIsTheDocuments(Due due) {
+        List<Member> members = new ArrayList<>();
+        members.addAll(Arrays.asList(CarThreads.class.getDeclaredConstructors()));
+        members.addAll(Arrays.asList(CarThreads.class.getDeclaredMethods()));
+        members.addAll(Arrays.asList(CarThreads.class.getDeclaredFields()));
         TreeSet<String> seen = new TreeSet<>();
-        for (Constructor<?> c : CarThreads.class.getDeclaredConstructors()) {
-            if (!Modifier.isPrivate(c.getModifiers())) {
-                seen.add(c.toString());
-            }
-        }
-        for (Method m : CarThreads.class.getDeclaredMethods()) {
-            if (!Modifier.isPrivate(m.getModifiers())) {
-                seen.add(m.toString());
-            }
-        }
-        for (Field f : CarThreads.class.getDeclaredFields()) {
-            if (!Modifier.isPrivate(f.getModifiers())) {
-                seen.add(f.toString());
+        for (Member member : members) {
+            if (!Modifier.isPrivate(member.getModifiers())) {
+                seen.add(member.toString());
             }
         }
         due.is("the face is " + seen + ": as in the document", seen.equals(new TreeSet<>(FACE)), true);
-        int modifiers = CarThreads.class.getModifiers();
-        due.is("public and final", Modifier.isPublic(modifiers) && Modifier.isFinal(modifiers), true);
-        for (Class<?> inside : CarThreads.class.getDeclaredClasses()) {
-            due.is(inside + " is static", Modifier.isStatic(inside.getModifiers()), true);
-            due.is(inside + " is public", Modifier.isPublic(inside.getModifiers()), false);
-        }
+    }
+
+    private static void theClassStandsAlone(Due due) {
+        Class<?> face = CarThreads.class;
+        due.is("public", Modifier.isPublic(face.getModifiers()), true);
+        due.is("final", Modifier.isFinal(face.getModifiers()), true);
+        due.is("without a package", face.getPackageName().isEmpty(), true);
+        due.is("above it", face.getSuperclass() == Object.class, true);
+        due.is("interfaces", face.getInterfaces().length, 0);
     }
 
     private static void noPrivateMethodBearsAPublicName(Due due) {
         Method[] methods = CarThreads.class.getDeclaredMethods();
         long names = Arrays.stream(methods).map(Method::getName).distinct().count();
         due.is("names of methods", names, methods.length);
-    }
-
-    private static void staticsAreFinal(Due due) {
-        for (Field f : CarThreads.class.getDeclaredFields()) {
-            if (Modifier.isStatic(f.getModifiers())) {
-                due.is(f + " is final", Modifier.isFinal(f.getModifiers()), true);
-            }
-        }
-    }
-
-    private static void sourceKeepsToTheLanguage(Due due) throws IOException {
-        String source = Files.readString(Path.of("src/main/java/CarThreads.java"));
-        String code = source.replaceAll("(?s)/\\*.*?\\*/", " ").replaceAll("//.*", " ");
-        for (String pattern : RULED_OUT) {
-            Matcher found = Pattern.compile(pattern).matcher(code);
-            if (found.find()) {
-                due.is("the source has '" + found.group() + "'", true, false);
-            }
-        }
     }
 }

@@ -10,6 +10,7 @@ public final class TurnRowTest {
         theFirstFiveHundred(due);
         thoseOfUnknownNodesAreLost(due);
         goneBehindTheFirstMicrosecond(due);
+        goneBehindARunOfNone(due);
         due.end();
     }
 
@@ -54,5 +55,15 @@ public final class TurnRowTest {
         x.turn(2);
         x.run();
         due.is("kept behind the run", count(x), 0);
+    }
+
+    /** "A TURN of a node for the next run": it is not one for the run behind that. */
+    private static void goneBehindARunOfNone(Due due) throws ReflectiveOperationException {
+        CarThreads x = Edges.twoWaitBefore(1, 1);
+        x.turn(1);
+        x.turn(2);
+        due.is("kept until the run", count(x), 2);
+        due.is("run()", x.run(), 0);
+        due.is("kept behind it", count(x), 0);
     }
 }
